@@ -185,6 +185,8 @@ public final class StateTest {
             told.isTaken("looked at again");
             nowTold("looked at again", told, true);
         }
+        Told other = new Told().function(0).takes(3, 0x0903).does("6; 45").isTaken("a local that writes");
+        other.function(0).takes(3).locals(0x0803).does("14 0; 13 1; 11 0; 0; 1").isTaken("in the next it does not write");
         Told told = looked().does("1");
         nowTold("got an instruction", told, false);
         told.fails("looked at again", 10, 2);

@@ -178,6 +178,7 @@ public final class TellingTest {
         due("function(0) when there are 64", x.function(0), FULL);
         due("function(8) when there are 64", x.function(8), BAD);
         due("a function without instructions", x.check(63), BAD - 100);
+        due("no such function", x.check(64), BAD - 100);
     }
 
     private static void lists() {

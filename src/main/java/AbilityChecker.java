@@ -934,8 +934,7 @@ public final class AbilityChecker {
 
         private int steer(int operation) {
             if (operation == Op.DROP) {
-                int why = stack.takeAny();
-                return why != 0 ? why : needs(stack.takenType, CAN_DROP);
+                return drop();
             }
             if (operation == Op.RETURN) {
                 return leave();
@@ -948,6 +947,14 @@ public final class AbilityChecker {
                 return why;
             }
             return stack.height == 0 ? 0 : NOT_EMPTY;
+        }
+
+        private int drop() {
+            int why = stack.takeAny();
+            if (why != 0) {
+                return why;
+            }
+            return ledger.can(stack.takenType, CAN_DROP) ? 0 : NO_ABILITY;
         }
 
         private int leave() {
@@ -1260,10 +1267,10 @@ public final class AbilityChecker {
                 return OTHER_TYPE;
             }
             why = stack.take(stack.takenType);
-            if (why == 0) {
-                why = needs(stack.takenType, CAN_DROP);
+            if (why != 0) {
+                return why;
             }
-            return why != 0 ? why : stack.put(Type.TRUTH, 0);
+            return ledger.can(stack.takenType, CAN_DROP) ? stack.put(Type.TRUTH, 0) : NO_ABILITY;
         }
 
         private int useResource(int operation) {
@@ -1372,10 +1379,6 @@ public final class AbilityChecker {
                 return OTHER_TYPE;
             }
             return writing && !Type.isWriting(type) ? NOT_WRITING : 0;
-        }
-
-        private int needs(long type, int ability) {
-            return ledger.can(type, ability) ? 0 : NO_ABILITY;
         }
 
         /** The reference asked about is off the stack by then, so that all that are LIVE are others. */
