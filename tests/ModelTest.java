@@ -2,13 +2,20 @@ import java.util.ArrayList;
 import java.util.List;
 import java.util.TreeMap;
 
-/** Compares the program with the Model on many functions, grown instruction by instruction so that they are often taken. */
+/**
+ * Compares the program with the Model on many functions, grown instruction by instruction so that they are often
+ * taken.
+ */
 public final class ModelTest {
-    private static final int LEDGERS = 1500;
+    private static final int LEDGERS = 3000;
     private static final int TRIES = 12;
+    private static final int MOST_CALLS = 512;
+    private static final int ASKS = 40;
 
     private static long seed = 20261119;
     private static int wrong = 0;
+    /** Of the object at hand: what it answers after MOST_CALLS is free. */
+    private static int calls = 0;
     private static final TreeMap<String, Integer> SEEN = new TreeMap<>();
 
     private static int below(int n) {
@@ -21,7 +28,8 @@ public final class ModelTest {
     }
 
     private static void due(String what, long got, long want) {
-        if (got != want) {
+        calls++;
+        if (got != want && calls <= MOST_CALLS) {
             wrong++;
             if (wrong < 40) {
                 System.out.println(what + " answered " + got + ", due is " + want);
@@ -59,11 +67,12 @@ public final class ModelTest {
 
     private static void compareLedger() {
         AbilityChecker x = new AbilityChecker();
+        calls = 0;
         Model m = new Model();
         tellStructures(x, m);
         tellElements(x, m);
-        int functions = 4 + below(6);
-        for (int f = 0; f < functions; f++) {
+        int functions = 2 + below(7);
+        for (int f = 0; f < functions && calls < MOST_CALLS; f++) {
             tellFunction(x, m, f);
             compareLook(x, m, below(f + 1));
             compareLook(x, m, f);
@@ -155,7 +164,8 @@ public final class ModelTest {
     }
 
     private static int[] someInstruction(Model m, Model.Function made, int at) {
-        int[] often = {11, 12, 12, 13, 13, 14, 15, 15, 16, 17, 18, 19, 20, 23, 23, 0, 0, 3, 4, 2, 50, 51, 56, 57, 54, 55};
+        int[] often = {11, 12, 12, 13, 13, 14, 15, 15, 16, 17, 18, 19, 20, 23, 23, 0, 0, 3, 4, 2, 50, 51, 56, 57,
+            54, 55};
         int op = oneIn(2) ? below(60) : often[below(often.length)];
         int a = below(4);
         if (op >= 2 && op <= 4) {
@@ -182,16 +192,24 @@ public final class ModelTest {
         List<int[]> code = m.functions.get(f).code;
         String key = why == 0 ? "taken" : why + " by " + code.get(m.place)[0];
         SEEN.merge(key, 1, Integer::sum);
+        for (int k = 0; k < ASKS; k++) {
+            compareAsk(x, m, f, code.size());
+        }
+    }
+
+    private static void compareAsk(AbilityChecker x, Model m, int f, int size) {
         int locals = m.functions.get(f).locals().size();
-        for (int i = -1; i <= code.size(); i++) {
-            Model.State state = m.states == null || i < 0 || i >= code.size() ? null : m.states[i];
+        int i = below(size + 2) - 1;
+        int k = below(locals + 2) - 1;
+        Model.State state = m.states == null || i < 0 || i >= size ? null : m.states[i];
+        boolean isLocal = state != null && k >= 0 && k < locals;
+        Model.Value held = isLocal ? state.locals.get(k) : null;
+        if (oneIn(4)) {
             due("height", x.height(i), state == null ? -1 : state.stack.size());
-            for (int k = -1; k <= locals; k++) {
-                boolean isLocal = state != null && k >= 0 && k < locals;
-                Model.Value held = isLocal ? state.locals.get(k) : null;
-                due("there", x.there(i, k), !isLocal ? -1 : held == null ? 0 : 1);
-                due("origins", x.origins(i, k), held == null ? 0 : bits(held));
-            }
+        } else if (oneIn(3)) {
+            due("there", x.there(i, k), !isLocal ? -1 : held == null ? 0 : 1);
+        } else {
+            due("origins", x.origins(i, k), held == null ? 0 : bits(held));
         }
     }
 
