@@ -24,9 +24,8 @@ final class Edge {
     }
 
     /**
-     * 32 structures: of the first 16, 7 has a long and a truth, 15 an address,
-         and no other a field; 16 .. 31 have a key
-     * alone, and no field. Element types: a long, a byte, structure 0, a vector of four 7s, structure 7, a truth.
+     * 32 structures: of the first 16, 7 has a long and a truth, 15 an address, and no other a field; 16 .. 31 have a
+     * key alone, and no field. Element types: a long, a byte, structure 0, a vector of four 7s, structure 7, a truth.
      */
     static Told world() {
         Told told = new Told();

@@ -25,6 +25,8 @@ public final class FaceTest {
         "public static final NO: int",
         "public structure(int): int",
         "public there(int, int): int"};
+    private static final int MOST_FIELDS = 20;
+    private static final int MOST_PARAMETERS = 7;
 
     public static void main(String[] args) {
         TreeSet<String> due = new TreeSet<>(Arrays.asList(PUBLIC));
@@ -45,8 +47,39 @@ public final class FaceTest {
         for (Class<?> inside : AbilityChecker.class.getDeclaredClasses()) {
             boolean right = Modifier.isStatic(inside.getModifiers()) && !Modifier.isPublic(inside.getModifiers());
             Due.due(inside.getName() + " is static and not public", right ? 1 : 0, 1);
+            keepsTheRules(inside);
         }
+        keepsTheRules(AbilityChecker.class);
         Due.end();
+    }
+
+    /** Of LANGUAGE.md: rule 1 (names), 5 (static fields) and 11 (parameters, fields beside the constants). */
+    private static void keepsTheRules(Class<?> one) {
+        int fields = 0;
+        for (Field field : one.getDeclaredFields()) {
+            int modifiers = field.getModifiers();
+            boolean isConstant = Modifier.isStatic(modifiers);
+            fields += isConstant ? 0 : 1;
+            boolean right = !isConstant || (Modifier.isFinal(modifiers) && field.getType().isPrimitive());
+            Due.due(one.getName() + "." + field.getName() + " is a constant or no static field", right ? 1 : 0, 1);
+        }
+        Due.due(one.getName() + " has too many fields", fields > MOST_FIELDS ? fields : 0, 0);
+        for (Method method : one.getDeclaredMethods()) {
+            String name = one.getName() + "." + method.getName();
+            int parameters = method.getParameterCount();
+            Due.due(name + " has too many parameters", parameters > MOST_PARAMETERS ? parameters : 0, 0);
+            boolean isTwice = !Modifier.isPublic(method.getModifiers()) && isOfTheFace(method.getName());
+            Due.due(name + " bears the name of a public one", isTwice ? 1 : 0, 0);
+        }
+    }
+
+    private static boolean isOfTheFace(String name) {
+        for (String told : PUBLIC) {
+            if (told.startsWith("public " + name + "(")) {
+                return true;
+            }
+        }
+        return false;
     }
 
     private static void add(TreeSet<String> got, int modifiers, String told) {
